@@ -29,17 +29,15 @@ public final class WouldTest {
         Runs.go(13, two, "moves 70 = 40; moves 55 = 40; moves 45 = -1; moves 5 = -1; digest = " + two.digest());
     }
 
-    /** With 150 it is still told what 151 would do: the allowed depth is 12 then, too. */
+    /** With 150 it is still told what one more would do. */
     private static void fullRegiment() {
         LopsidedRanks ranks = new LopsidedRanks();
-        for (int i = 0; i < 150; i++) {
-            ranks.muster(i);
+        for (int i = 0; i < 149; i++) {
+            ranks.muster(i * 6);
         }
-        int depth = ranks.told(149, 0) + 1;
-        Runs.go(12, ranks, "would 149 = -1; would 999 = " + depth);
-        Runs.go(13, ranks, "moves 149 = -1; muster 999 = throws.IllegalStateException");
-        boolean moved = ranks.moves(999) >= 0;
-        Runs.due(13, "moves 999 where 150 are there", moved, depth > 12);
+        ranks.muster(1);
+        Runs.go(13, ranks, "count 0 = 150; count 3 = 12; would 999 = 13; moves 999 = 864; moves 888 = -1; moves 2 = -1; count 0 = 150;"
+                + "muster 999 = throws.IllegalStateException");
     }
 
     private static void mean() {
