@@ -199,7 +199,7 @@ public final class LopsidedRanks {
 
     // ---- what would be
 
-    /** Returns the depth of a soldier of this height who is mustered now, ahead of any drawing up; -1 if there is one. */
+    /** Returns the depth of a soldier of this height mustered now, ahead of any drawing up; -1 if there is one. */
     public int would(int height) throws IllegalArgumentException {
         refuseOddHeight(height);
         return find(height) != null ? NOBODY : newDepth(lastOnTheWayTo(height));
@@ -306,11 +306,11 @@ public final class LopsidedRanks {
     private int smallerThan(int height) {
         int smaller = 0;
         for (Soldier s = top; s != null; s = s.towards(height)) {
-            if (s.height < height) {
-                smaller += companyOf(s.left) + 1;
-            }
             if (s.height == height) {
                 return smaller + companyOf(s.left);
+            }
+            if (s.height < height) {
+                smaller += companyOf(s.left) + 1;
             }
         }
         return smaller;
