@@ -324,7 +324,7 @@ public final class LopsidedRanks {
 
     private void insertIntoLine(Soldier newcomer) {
         int place = soldiers;
-        if (place >= line.length) {
+        if (place < 0 || place >= line.length) {
             return;
         }
         while (place > 0 && heightOf(line[place - 1]) > newcomer.height) {
@@ -336,13 +336,15 @@ public final class LopsidedRanks {
     }
 
     private void removeFromLine(Soldier leaver) {
-        for (int place = smallerThan(leaver.height); place + 1 < soldiers && place + 1 < line.length; place++) {
-            line[place] = line[place + 1];
+        int place = smallerThan(leaver.height);
+        if (place < 0 || place >= soldiers || soldiers > line.length) {
+            return;
         }
         soldiers--;
-        if (soldiers >= 0 && soldiers < line.length) {
-            line[soldiers] = null;
+        for (; place < soldiers; place++) {
+            line[place] = line[place + 1];
         }
+        line[soldiers] = null;
     }
 
     // ---- the ranks

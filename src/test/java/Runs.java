@@ -1,11 +1,18 @@
+import java.util.ArrayDeque;
 import java.util.function.Supplier;
 
 /** Runs of calls, written one a line as "muster 10 = 0", on an object of the class; counts the wrong answers. */
 final class Runs {
     private static int wrong = 0;
     private static int checked = 0;
+    private static String sentence = "";
 
     private Runs() {
+    }
+
+    /** Names the sentence of the document that the following checks hold to; it is printed with each wrong answer. */
+    static void says(String sentenceOfTheDocument) {
+        sentence = " [" + sentenceOfTheDocument + "]";
     }
 
     /** Makes a new object and checks every line of a run against it. */
@@ -36,7 +43,29 @@ final class Runs {
 
     static void musterAll(LopsidedRanks ranks, int... heights) {
         for (int height : heights) {
-            ranks.muster(height);
+            mustered(ranks, height);
+        }
+    }
+
+    private static void mustered(LopsidedRanks ranks, int height) {
+        String answer = answer(ranks, "muster " + height);
+        if (answer.startsWith("throws")) {
+            due(2, "muster " + height, answer, "a depth");
+        }
+    }
+
+    /** Musters heights from the first one on, so many, a step apart, rank by rank, so that nobody is drawn up. */
+    static void musterByRanks(LopsidedRanks ranks, int first, int step, int many) {
+        ArrayDeque<int[]> parts = new ArrayDeque<>();
+        parts.add(new int[] {0, many});
+        while (!parts.isEmpty()) {
+            int[] part = parts.remove();
+            int middle = part[0] + (part[1] - 1) / 2;
+            if (part[1] > 0) {
+                mustered(ranks, first + step * middle);
+                parts.add(new int[] {part[0], middle - part[0]});
+                parts.add(new int[] {middle + 1, part[0] + part[1] - middle - 1});
+            }
         }
     }
 
@@ -44,7 +73,7 @@ final class Runs {
         checked++;
         if (!String.valueOf(got).equals(String.valueOf(want))) {
             wrong++;
-            System.out.println("promise " + promise + ": " + what + " answered " + got + ", due is " + want);
+            System.out.println("promise " + promise + ": " + what + " answered " + got + ", due is " + want + sentence);
         }
     }
 
