@@ -9,8 +9,8 @@ public final class LopsidedRanks {
     // 150 soldiers are halved down to nobody after 8 levels
     private static final int MOST_HALVINGS = 40;
 
-    // (3/2)^40 is more than 10 million, far above any number of soldiers; 3^40 still fits into a long
-    private static final int DEPTH_BOUND = 40;
+    // (3/2)^30 is more than 190,000, far above any number of soldiers; 3^31 still fits into a long
+    private static final int DEPTH_BOUND = 30;
 
     /** One soldier, and who stands next to this one. */
     private static final class Soldier {

@@ -73,19 +73,13 @@ public final class MusteringTest {
         Runs.due(2, "muster 1 where there are 149", Runs.caught(() -> ranks.muster(1)).startsWith("throws"), false);
     }
 
-    private static LopsidedRanks seven() {
-        LopsidedRanks ranks = new LopsidedRanks();
-        Runs.musterAll(ranks, 40, 20, 60, 10, 30, 50, 70);
-        return ranks;
-    }
-
     private static void dischargeWithNobodyBelow() {
-        Runs.go(3, seven(), "discharge 10 = false; isThere 10 = false; told 20 2 = -1; told 20 3 = 30; told 40 4 = 6; count 5 = 0; count 7 = 7;"
+        Runs.go(3, Runs.seven(), "discharge 10 = false; isThere 10 = false; told 20 2 = -1; told 20 3 = 30; told 40 4 = 6; count 5 = 0; count 7 = 7;"
                 + "discharge 30 = false; told 20 3 = -1; told 20 4 = 1; told 40 4 = 5; at 0 = 20; at 1 = 40");
     }
 
     private static void dischargeWithOneSide() {
-        LopsidedRanks ranks = seven();
+        LopsidedRanks ranks = Runs.seven();
         ranks.muster(5);
         ranks.muster(75);
         Runs.go(3, ranks, "discharge 10 = false; told 20 2 = 5; told 5 1 = 20; told 5 0 = 2;"
@@ -97,11 +91,11 @@ public final class MusteringTest {
 
     private static void dischargeWithBothSides() {
         // the next taller one stands right below
-        LopsidedRanks ranks = seven();
+        LopsidedRanks ranks = Runs.seven();
         ranks.muster(80);
         Runs.go(3, ranks, "discharge 60 = false; told 40 3 = 70; told 70 1 = 40; told 70 2 = 50; told 70 3 = 80; told 50 1 = 70; told 80 1 = 70; told 70 4 = 3");
         // it stands deeper, and another one to the right of it
-        LopsidedRanks deep = seven();
+        LopsidedRanks deep = Runs.seven();
         deep.muster(55);
         Runs.go(3, deep, "discharge 40 = false; count 1 = 50; told 50 1 = -1; told 50 2 = 20; told 50 3 = 60; told 20 1 = 50; told 60 1 = 50;"
                 + "told 60 2 = 55; told 55 1 = 60; told 60 4 = 3; told 50 4 = 7; told 50 7 = 3; isThere 40 = false; count 0 = 7");
@@ -109,7 +103,7 @@ public final class MusteringTest {
 
     private static void dischargeDrawsUpAll() {
         // 7 were the most: 5 are not less than two thirds of them (15, 14), 4 are (12, 14)
-        LopsidedRanks ranks = seven();
+        LopsidedRanks ranks = Runs.seven();
         Runs.go(3, ranks, "discharge 10 = false; discharge 20 = false; count 7 = 7; count 5 = 0; discharge 30 = true; count 7 = 4; count 5 = 1; count 6 = 4;"
                 + "count 1 = 50; told 50 2 = 40; told 50 3 = 60; told 60 3 = 70; told 50 1 = -1");
         // two thirds to the very soldier are not less: 6, then 4
@@ -117,7 +111,7 @@ public final class MusteringTest {
         Runs.musterAll(six, 40, 20, 60, 10, 30, 50);
         Runs.go(3, six, "discharge 10 = false; discharge 20 = false; count 7 = 6; count 5 = 0; discharge 30 = true; count 7 = 3; count 6 = 3");
         // the most stays as it was while soldiers come and go
-        LopsidedRanks swaying = seven();
+        LopsidedRanks swaying = Runs.seven();
         Runs.go(3, swaying, "discharge 10 = false; discharge 30 = false; muster 10 = 2; count 7 = 7; discharge 10 = false; discharge 50 = true");
     }
 
@@ -127,7 +121,7 @@ public final class MusteringTest {
     }
 
     private static void dischargeRefuses() {
-        LopsidedRanks ranks = seven();
+        LopsidedRanks ranks = Runs.seven();
         Runs.refused(3, ranks, IAE, "discharge -1", "discharge 1000", "discharge 2147483647");
         Runs.refused(3, ranks, ISE, "discharge 0", "discharge 41", "discharge 999");
         Runs.refused(3, new LopsidedRanks(), ISE, "discharge 0", "discharge 999");
@@ -153,13 +147,13 @@ public final class MusteringTest {
     }
 
     private static void drawOfTheTopSetsTheMost() {
-        LopsidedRanks ranks = seven();
+        LopsidedRanks ranks = Runs.seven();
         Runs.go(4, ranks, "discharge 10 = false; discharge 30 = false; draw 20 = 20; count 7 = 7; draw 60 = 60; count 7 = 7; draw 40 = 50; count 7 = 5; discharge 70 = false;"
                 + "count 7 = 5; discharge 60 = true; count 7 = 3");
     }
 
     private static void drawRefuses() {
-        LopsidedRanks ranks = seven();
+        LopsidedRanks ranks = Runs.seven();
         Runs.refused(4, ranks, IAE, "draw -1", "draw 1000", "draw -2147483648");
         Runs.refused(4, ranks, ISE, "draw 0", "draw 41", "draw 999");
         Runs.refused(4, new LopsidedRanks(), ISE, "draw 0");

@@ -56,20 +56,9 @@ public final class PromisesEdgesTest {
         Runs.end();
     }
 
-    private static LopsidedRanks byRanks(int first, int step, int many) {
-        LopsidedRanks ranks = new LopsidedRanks();
-        Runs.musterByRanks(ranks, first, step, many);
-        return ranks;
-    }
-
-    /** 40 at the top, 20 (10, 30) to the left, 60 (50, 70) to the right. */
-    private static LopsidedRanks seven() {
-        return byRanks(10, 10, 7);
-    }
-
     /** 0, 6, 12 and so on to 894. */
     private static LopsidedRanks full() {
-        return byRanks(0, 6, FULL);
+        return Runs.byRanks(0, 6, FULL);
     }
 
     private static LopsidedRanks nobody() {
@@ -83,7 +72,7 @@ public final class PromisesEdgesTest {
     private static void newObject() {
         Runs.says("Creates a regiment without soldiers.");
         Runs.go(1, nobody(), "count 0 = 0; count 7 = 0; between 0 999 = 0; taller 0 = -1; mean = 0.0; count 5 = 0; count 6 = 0");
-        LopsidedRanks one = seven();
+        LopsidedRanks one = Runs.seven();
         Runs.go(1, nobody(), "count 0 = 0; isThere 40 = false");
         Runs.go(1, one, "count 0 = 7; isThere 40 = true");
     }
@@ -99,13 +88,13 @@ public final class PromisesEdgesTest {
     private static void musterOddHeight() {
         Runs.says("muster: IllegalArgumentException if height is not 0 to 999");
         Runs.refused(2, nobody(), IAE, "muster -1", "muster 1000");
-        Runs.refused(2, seven(), IAE, "muster -1", "muster 1000", "muster -2147483648", "muster 2147483647");
-        Runs.go(2, seven(), "muster 0 = 3; muster 999 = 3");
+        Runs.refused(2, Runs.seven(), IAE, "muster -1", "muster 1000", "muster -2147483648", "muster 2147483647");
+        Runs.go(2, Runs.seven(), "muster 0 = 3; muster 999 = 3");
     }
 
     private static void musterOneThereOrFull() {
         Runs.says("muster: IllegalStateException if there is one of this height, or there are 150");
-        LopsidedRanks ranks = seven();
+        LopsidedRanks ranks = Runs.seven();
         ranks.muster(0);
         ranks.muster(999);
         Runs.refused(2, ranks, ISE, "muster 0", "muster 40", "muster 10", "muster 999");
@@ -118,7 +107,7 @@ public final class PromisesEdgesTest {
         Runs.says("Returns whether all were drawn up anew.");
         // a company that becomes crooked is no reason; one alone who is left is all
         Runs.run(3, "muster 10 = 0; muster 5 = 1; muster 20 = 1; muster 30 = 2; muster 15 = 2; told 10 6 = 0; discharge 5 = false; told 10 6 = 1; count 5 = 0");
-        Runs.go(3, seven(), "discharge 10 = false; discharge 30 = false; count 5 = 0; discharge 20 = true; count 5 = 1; count 6 = 4");
+        Runs.go(3, Runs.seven(), "discharge 10 = false; discharge 30 = false; count 5 = 0; discharge 20 = true; count 5 = 1; count 6 = 4");
         Runs.run(3, "muster 1 = 0; muster 2 = 1; discharge 2 = true; count 5 = 1; count 6 = 1; discharge 1 = false; count 5 = 1");
     }
 
@@ -132,7 +121,7 @@ public final class PromisesEdgesTest {
         Runs.says("discharge: IllegalStateException if there is no such soldier");
         Runs.refused(3, nobody(), ISE, "discharge 0", "discharge 999");
         Runs.refused(3, allGone(), ISE, "discharge 40");
-        Runs.refused(3, seven(), ISE, "discharge 0", "discharge 39", "discharge 41", "discharge 999");
+        Runs.refused(3, Runs.seven(), ISE, "discharge 0", "discharge 39", "discharge 41", "discharge 999");
     }
 
     private static void drawCaptainThen() {
@@ -151,14 +140,14 @@ public final class PromisesEdgesTest {
         Runs.says("draw: IllegalStateException if there is no such soldier");
         Runs.refused(4, nobody(), ISE, "draw 0", "draw 999");
         Runs.refused(4, allGone(), ISE, "draw 40");
-        Runs.refused(4, seven(), ISE, "draw 0", "draw 39", "draw 41", "draw 999");
+        Runs.refused(4, Runs.seven(), ISE, "draw 0", "draw 39", "draw 41", "draw 999");
     }
 
     private static void isThere() {
         Runs.says("Returns whether there is a soldier of it.");
         Runs.go(5, nobody(), "isThere 0 = false; isThere 999 = false");
         Runs.go(5, allGone(), "isThere 40 = false");
-        Runs.go(5, seven(), "isThere 40 = true; isThere 39 = false; isThere 41 = false; isThere 10 = true; isThere 9 = false; isThere 70 = true; isThere 71 = false;"
+        Runs.go(5, Runs.seven(), "isThere 40 = true; isThere 39 = false; isThere 41 = false; isThere 10 = true; isThere 9 = false; isThere 70 = true; isThere 71 = false;"
                 + "muster 0 = 3; isThere 0 = true; muster 999 = 3; isThere 999 = true; discharge 40 = false; isThere 40 = false; isThere 50 = true");
     }
 
@@ -170,7 +159,7 @@ public final class PromisesEdgesTest {
 
     private static void toldNobody() {
         Runs.says("1 who stands above, 2 who stands to the left, 3 to the right (-1 for nobody)");
-        Runs.go(6, seven(), "told 40 1 = -1; told 40 2 = 20; told 40 3 = 60; told 10 1 = 20; told 10 2 = -1; told 10 3 = -1; muster 5 = 3; told 10 2 = 5; told 10 3 = -1;"
+        Runs.go(6, Runs.seven(), "told 40 1 = -1; told 40 2 = 20; told 40 3 = 60; told 10 1 = 20; told 10 2 = -1; told 10 3 = -1; muster 5 = 3; told 10 2 = 5; told 10 3 = -1;"
                 + "discharge 5 = false; muster 15 = 3; told 10 2 = -1; told 10 3 = 15");
         // the height 0 is somebody
         Runs.run(6, "muster 1 = 0; told 1 2 = -1; muster 0 = 1; told 1 2 = 0; told 0 1 = 1; discharge 1 = true; told 0 1 = -1; muster 2 = 1; told 2 1 = 0");
@@ -178,7 +167,7 @@ public final class PromisesEdgesTest {
 
     private static void toldDeepest() {
         Runs.says("5 how much deeper the deepest one of it is");
-        Runs.go(6, seven(), "told 40 5 = 2; told 20 5 = 1; told 10 5 = 0; told 70 5 = 0; muster 5 = 3; told 40 5 = 3; told 20 5 = 2; told 10 5 = 1; told 60 5 = 1;"
+        Runs.go(6, Runs.seven(), "told 40 5 = 2; told 20 5 = 1; told 10 5 = 0; told 70 5 = 0; muster 5 = 3; told 40 5 = 3; told 20 5 = 2; told 10 5 = 1; told 60 5 = 1;"
                 + "discharge 5 = false; told 40 5 = 2; muster 75 = 3; told 40 5 = 3; told 60 5 = 2; told 20 5 = 1");
     }
 
@@ -203,8 +192,8 @@ public final class PromisesEdgesTest {
 
     private static void toldOddWhat() {
         Runs.says("told: IndexOutOfBoundsException if what is not 0 to 7");
-        Runs.refused(6, seven(), IOOBE, "told 40 -1", "told 40 8", "told 40 -2147483648", "told 40 2147483647");
-        Runs.go(6, seven(), "told 40 0 = 0; told 40 7 = 3");
+        Runs.refused(6, Runs.seven(), IOOBE, "told 40 -1", "told 40 8", "told 40 -2147483648", "told 40 2147483647");
+        Runs.go(6, Runs.seven(), "told 40 0 = 0; told 40 7 = 3");
     }
 
     private static void toldNoSuchSoldier() {
@@ -212,7 +201,7 @@ public final class PromisesEdgesTest {
         for (int what = 0; what <= 7; what++) {
             Runs.refused(6, nobody(), ISE, "told 0 " + what, "told 999 " + what);
             Runs.refused(6, allGone(), ISE, "told 40 " + what);
-            Runs.refused(6, seven(), ISE, "told 0 " + what, "told 39 " + what, "told 41 " + what, "told 999 " + what);
+            Runs.refused(6, Runs.seven(), ISE, "told 0 " + what, "told 39 " + what, "told 41 " + what, "told 999 " + what);
         }
     }
 
@@ -222,14 +211,14 @@ public final class PromisesEdgesTest {
         for (int place = 0; place < FULL; place++) {
             Runs.due(7, "at " + place, full.at(place), place * 6);
         }
-        Runs.go(7, seven(), "at 0 = 10; at 6 = 70; discharge 10 = false; at 0 = 20; at 5 = 70; discharge 70 = false; at 4 = 60; muster 0 = 2; at 0 = 0; muster 999 = 2; at 6 = 999");
+        Runs.go(7, Runs.seven(), "at 0 = 10; at 6 = 70; discharge 10 = false; at 0 = 20; at 5 = 70; discharge 70 = false; at 4 = 60; muster 0 = 2; at 0 = 0; muster 999 = 2; at 6 = 999");
     }
 
     private static void atNoSuchPlace() {
         Runs.says("at: IndexOutOfBoundsException if there is no such place");
         Runs.refused(7, nobody(), IOOBE, "at -1", "at 0", "at 1");
         Runs.refused(7, allGone(), IOOBE, "at 0");
-        Runs.refused(7, seven(), IOOBE, "at -1", "at 7", "at 149", "at 150", "at -2147483648", "at 2147483647");
+        Runs.refused(7, Runs.seven(), IOOBE, "at -1", "at 7", "at 149", "at 150", "at -2147483648", "at 2147483647");
         Runs.refused(7, full(), IOOBE, "at -1", "at 150");
         LopsidedRanks fewer = full();
         fewer.discharge(0);
@@ -238,7 +227,7 @@ public final class PromisesEdgesTest {
 
     private static void betweenWithBoth() {
         Runs.says("Returns how many soldiers are from the one to the other one, with both");
-        Runs.go(8, seven(), "between 10 70 = 7; between 11 70 = 6; between 10 69 = 6; between 11 69 = 5; between 40 40 = 1; between 41 41 = 0; between 41 49 = 0; between 41 50 = 1;"
+        Runs.go(8, Runs.seven(), "between 10 70 = 7; between 11 70 = 6; between 10 69 = 6; between 11 69 = 5; between 40 40 = 1; between 41 41 = 0; between 41 49 = 0; between 41 50 = 1;"
                 + "between 40 49 = 1; between 0 999 = 7; between 0 9 = 0; between 71 999 = 0; between 0 0 = 0; between 999 999 = 0;"
                 + "muster 0 = 3; between 0 0 = 1; muster 999 = 3; between 999 999 = 1; between 0 999 = 9");
         Runs.go(8, nobody(), "between 0 999 = 0; between 0 0 = 0; between 999 999 = 0");
@@ -247,20 +236,20 @@ public final class PromisesEdgesTest {
 
     private static void betweenTurnedRound() {
         Runs.says("0 if from is greater than to");
-        Runs.go(8, seven(), "between 70 10 = 0; between 999 0 = 0; between 50 40 = 0; between 41 40 = 0; between 40 39 = 0; between 40 40 = 1");
+        Runs.go(8, Runs.seven(), "between 70 10 = 0; between 999 0 = 0; between 50 40 = 0; between 41 40 = 0; between 40 39 = 0; between 40 40 = 1");
     }
 
     private static void betweenOddHeight() {
         Runs.says("between: IllegalArgumentException if from or to is not 0 to 999");
         Runs.refused(8, nobody(), IAE, "between -1 0", "between 0 1000");
-        Runs.refused(8, seven(), IAE, "between -1 40", "between 1000 40", "between 40 -1", "between 40 1000", "between -1 1000", "between 1000 -1",
+        Runs.refused(8, Runs.seven(), IAE, "between -1 40", "between 1000 40", "between 40 -1", "between 40 1000", "between -1 1000", "between 1000 -1",
                 "between -2147483648 40", "between 40 2147483647");
     }
 
     private static void captainDeepest() {
         Runs.says("Returns the height of the deepest one to whose company both belong.");
         // one who is both, one of whom is above the other, at the top, far below it, either way round
-        Runs.go(9, seven(), "captain 40 40 = 40; captain 10 10 = 10; captain 10 20 = 20; captain 20 10 = 20; captain 10 30 = 20; captain 30 10 = 20; captain 30 50 = 40;"
+        Runs.go(9, Runs.seven(), "captain 40 40 = 40; captain 10 10 = 10; captain 10 20 = 20; captain 20 10 = 20; captain 10 30 = 20; captain 30 10 = 20; captain 30 50 = 40;"
                 + "captain 50 30 = 40; captain 40 70 = 40; captain 70 40 = 40; captain 70 60 = 60; captain 50 70 = 60; captain 10 70 = 40; captain 60 60 = 60");
         Runs.run(9, "muster 0 = 0; captain 0 0 = 0; muster 999 = 1; captain 0 999 = 0; captain 999 0 = 0; captain 999 999 = 999");
     }
@@ -268,7 +257,7 @@ public final class PromisesEdgesTest {
     private static void captainOddHeight() {
         Runs.says("captain: IllegalArgumentException if a or b is not 0 to 999");
         Runs.refused(9, nobody(), IAE, "captain -1 0", "captain 0 1000");
-        Runs.refused(9, seven(), IAE, "captain -1 40", "captain 40 -1", "captain 1000 40", "captain 40 1000", "captain 41 -1", "captain -1 41",
+        Runs.refused(9, Runs.seven(), IAE, "captain -1 40", "captain 40 -1", "captain 1000 40", "captain 40 1000", "captain 41 -1", "captain -1 41",
                 "captain -2147483648 40", "captain 40 2147483647");
     }
 
@@ -276,12 +265,12 @@ public final class PromisesEdgesTest {
         Runs.says("captain: IllegalStateException if there is no such soldier");
         Runs.refused(9, nobody(), ISE, "captain 0 0", "captain 0 999");
         Runs.refused(9, allGone(), ISE, "captain 40 40");
-        Runs.refused(9, seven(), ISE, "captain 40 41", "captain 41 40", "captain 41 41", "captain 0 40", "captain 40 999");
+        Runs.refused(9, Runs.seven(), ISE, "captain 40 41", "captain 41 40", "captain 41 41", "captain 0 40", "captain 40 999");
     }
 
     private static void tallerLeast() {
         Runs.says("Returns the least height of a soldier who is taller");
-        Runs.go(10, seven(), "taller 0 = 10; taller 9 = 10; taller 10 = 20; taller 11 = 20; taller 39 = 40; taller 40 = 50; taller 69 = 70; muster 999 = 3; taller 70 = 999;"
+        Runs.go(10, Runs.seven(), "taller 0 = 10; taller 9 = 10; taller 10 = 20; taller 11 = 20; taller 39 = 40; taller 40 = 50; taller 69 = 70; muster 999 = 3; taller 70 = 999;"
                 + "taller 998 = 999; muster 0 = 3; taller 0 = 10; muster 1 = 4; taller 0 = 1");
     }
 
@@ -289,14 +278,14 @@ public final class PromisesEdgesTest {
         Runs.says("taller: -1 if nobody is");
         Runs.go(10, nobody(), "taller 0 = -1; taller 999 = -1");
         Runs.go(10, allGone(), "taller 0 = -1; taller 39 = -1");
-        Runs.go(10, seven(), "taller 70 = -1; taller 71 = -1; taller 999 = -1; muster 999 = 3; taller 999 = -1");
+        Runs.go(10, Runs.seven(), "taller 70 = -1; taller 71 = -1; taller 999 = -1; muster 999 = 3; taller 999 = -1");
         Runs.go(10, full(), "taller 893 = 894; taller 894 = -1; taller 999 = -1");
     }
 
     private static void tallerOddHeight() {
         Runs.says("taller: IllegalArgumentException if height is not 0 to 999");
         Runs.refused(10, nobody(), IAE, "taller -1", "taller 1000");
-        Runs.refused(10, seven(), IAE, "taller -1", "taller 1000", "taller -2147483648", "taller 2147483647");
+        Runs.refused(10, Runs.seven(), IAE, "taller -1", "taller 1000", "taller -2147483648", "taller 2147483647");
     }
 
     private static void countWithoutAny() {
@@ -323,7 +312,7 @@ public final class PromisesEdgesTest {
         Runs.says("count: IndexOutOfBoundsException if what is not 0 to 7");
         Runs.refused(11, nobody(), IOOBE, "count -1", "count 8");
         Runs.refused(11, full(), IOOBE, "count -1", "count 8", "count -2147483648", "count 2147483647");
-        Runs.go(11, seven(), "count 0 = 7; count 7 = 7");
+        Runs.go(11, Runs.seven(), "count 0 = 7; count 7 = 7");
     }
 
     private static void wouldAheadOfDrawingUp() {
@@ -337,7 +326,7 @@ public final class PromisesEdgesTest {
 
     private static void wouldOneThere() {
         Runs.says("would: -1 if there is one");
-        Runs.go(12, seven(), "would 40 = -1; would 10 = -1; would 70 = -1; would 71 = 3; would 0 = 3; muster 0 = 3; would 0 = -1; muster 999 = 3; would 999 = -1;"
+        Runs.go(12, Runs.seven(), "would 40 = -1; would 10 = -1; would 70 = -1; would 71 = 3; would 0 = 3; muster 0 = 3; would 0 = -1; muster 999 = 3; would 999 = -1;"
                 + "discharge 40 = false; would 40 = 3");
         Runs.go(12, full(), "would 0 = -1; would 894 = -1");
     }
@@ -403,7 +392,7 @@ public final class PromisesEdgesTest {
     private static void meanOfAll() {
         Runs.says("Returns the mean depth of all soldiers");
         Runs.run(14, "muster 10 = 0; mean = 0.0; muster 20 = 1; mean = 0.5; muster 30 = 2; mean = 1.0; muster 5 = 1; mean = 1.0; muster 40 = 3; mean = 1.4");
-        Runs.due(14, "mean of seven", seven().mean(), 10 / 7.0);
+        Runs.due(14, "mean of seven", Runs.seven().mean(), 10 / 7.0);
         // 1, 2, 4 and so on to 64 in the ranks 0 to 6, and 23 in the rank 7
         Runs.due(14, "mean of 150", full().mean(), (2 + 8 + 24 + 64 + 160 + 384 + 23 * 7) / 150.0);
     }
@@ -416,7 +405,7 @@ public final class PromisesEdgesTest {
 
     private static void digestOfEverything() {
         Runs.says("what count() tells, in its order; for each soldier, by height, the height, and what told() tells, in its order");
-        for (LopsidedRanks ranks : new LopsidedRanks[] {nobody(), allGone(), seven()}) {
+        for (LopsidedRanks ranks : new LopsidedRanks[] {nobody(), allGone(), Runs.seven()}) {
             Runs.due(15, "digest of " + ranks.count(0), ranks.digest(), folded(ranks).longValue());
         }
     }
@@ -425,7 +414,7 @@ public final class PromisesEdgesTest {
         Runs.says("d becomes d * 31 + x, which wraps around as a 64-bit integer");
         // 40 are told one by one within 512 calls
         for (int many : new int[] {1, 2, 3, 40}) {
-            LopsidedRanks ranks = byRanks(0, 25, many);
+            LopsidedRanks ranks = Runs.byRanks(0, 25, many);
             BigInteger whole = folded(ranks);
             Runs.due(15, "digest of " + many + " needs to wrap", whole.bitLength() > 63, true);
             Runs.due(15, "digest of " + many, ranks.digest(), whole.longValue());

@@ -69,6 +69,17 @@ final class Runs {
         }
     }
 
+    static LopsidedRanks byRanks(int first, int step, int many) {
+        LopsidedRanks ranks = new LopsidedRanks();
+        musterByRanks(ranks, first, step, many);
+        return ranks;
+    }
+
+    /** 40 at the top, 20 (10, 30) to the left, 60 (50, 70) to the right. */
+    static LopsidedRanks seven() {
+        return byRanks(10, 10, 7);
+    }
+
     static void due(int promise, String what, Object got, Object want) {
         checked++;
         if (!String.valueOf(got).equals(String.valueOf(want))) {

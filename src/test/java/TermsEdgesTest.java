@@ -37,17 +37,6 @@ public final class TermsEdgesTest {
         Runs.end();
     }
 
-    private static LopsidedRanks byRanks(int first, int step, int many) {
-        LopsidedRanks ranks = new LopsidedRanks();
-        Runs.musterByRanks(ranks, first, step, many);
-        return ranks;
-    }
-
-    /** 40 at the top, 20 (10, 30) to the left, 60 (50, 70) to the right. */
-    private static LopsidedRanks seven() {
-        return byRanks(10, 10, 7);
-    }
-
     private static LopsidedRanks mustered(int... heights) {
         LopsidedRanks ranks = new LopsidedRanks();
         Runs.musterAll(ranks, heights);
@@ -80,16 +69,16 @@ public final class TermsEdgesTest {
         String[] oneHeight = {"muster", "discharge", "draw", "isThere", "taller", "would", "moves"};
         for (String odd : new String[] {"-1", "1000", "-2147483648", "2147483647"}) {
             for (String call : oneHeight) {
-                Runs.refused(2, seven(), IAE, call + " " + odd);
+                Runs.refused(2, Runs.seven(), IAE, call + " " + odd);
             }
-            Runs.refused(2, seven(), IAE, "told " + odd + " 0", "between " + odd + " 40", "between 40 " + odd,
+            Runs.refused(2, Runs.seven(), IAE, "told " + odd + " 0", "between " + odd + " 40", "between 40 " + odd,
                     "captain " + odd + " 40", "captain 40 " + odd);
         }
     }
 
     private static void noTwoOfOneHeight() {
         Runs.says("no two have the same one");
-        LopsidedRanks ranks = seven();
+        LopsidedRanks ranks = Runs.seven();
         Runs.refused(2, ranks, ISE, "muster 40", "muster 10", "muster 70");
         Runs.go(2, ranks, "between 40 40 = 1; count 0 = 7; discharge 40 = false; muster 40 = 3; between 40 40 = 1");
         Runs.refused(2, ranks, ISE, "muster 40");
@@ -97,7 +86,7 @@ public final class TermsEdgesTest {
 
     private static void atMost150() {
         Runs.says("there are at most 150");
-        LopsidedRanks ranks = byRanks(0, 6, FULL - 1);
+        LopsidedRanks ranks = Runs.byRanks(0, 6, FULL - 1);
         Runs.go(2, ranks, "count 0 = 149; muster 999 = 8; count 0 = 150");
         Runs.refused(2, ranks, ISE, "muster 1", "muster 998");
         Runs.go(2, ranks, "discharge 0 = false; count 0 = 149; muster 1 = 6; count 0 = 150");
@@ -106,7 +95,7 @@ public final class TermsEdgesTest {
 
     private static void topAndOneDeeper() {
         Runs.says("One stands at the top, at the depth 0; each one who stands below another one, to the left or to the right, is 1 deeper.");
-        Runs.go(6, seven(), "told 40 0 = 0; told 40 1 = -1; told 20 0 = 1; told 60 0 = 1; told 10 0 = 2; told 30 0 = 2; told 50 0 = 2; told 70 0 = 2");
+        Runs.go(6, Runs.seven(), "told 40 0 = 0; told 40 1 = -1; told 20 0 = 1; told 60 0 = 1; told 10 0 = 2; told 30 0 = 2; told 50 0 = 2; told 70 0 = 2");
         Runs.run(6, "muster 5 = 0; told 5 0 = 0; discharge 5 = false; muster 6 = 0; told 6 0 = 0");
     }
 
@@ -119,8 +108,8 @@ public final class TermsEdgesTest {
 
     private static void companyOfOneOrMore() {
         Runs.says("Company of a soldier: this one, and all below.");
-        Runs.go(6, seven(), "told 10 4 = 1; told 20 4 = 3; told 40 4 = 7; muster 5 = 3; told 10 4 = 2; told 20 4 = 4; told 40 4 = 8; told 60 4 = 3");
-        Runs.go(6, byRanks(0, 6, FULL), "told 444 4 = 150; told 444 1 = -1; told 888 4 = 2; told 894 4 = 1");
+        Runs.go(6, Runs.seven(), "told 10 4 = 1; told 20 4 = 3; told 40 4 = 7; muster 5 = 3; told 10 4 = 2; told 20 4 = 4; told 40 4 = 8; told 60 4 = 3");
+        Runs.go(6, Runs.byRanks(0, 6, FULL), "told 444 4 = 150; told 444 1 = -1; told 888 4 = 2; told 894 4 = 1");
     }
 
     private static void crookedWithFew() {
@@ -161,7 +150,7 @@ public final class TermsEdgesTest {
             growing.muster(many);
             dueAllowedDepth(growing, many);
         }
-        LopsidedRanks shrinking = byRanks(1, 1, FULL);
+        LopsidedRanks shrinking = Runs.byRanks(1, 1, FULL);
         for (int many = FULL - 1; many >= 1; many--) {
             shrinking.discharge(many + 1);
             dueAllowedDepth(shrinking, many);
@@ -211,7 +200,7 @@ public final class TermsEdgesTest {
 
     private static void firstFreePlace() {
         Runs.says("to the left of each one who is taller, to the right of each one who is smaller, to the first free place");
-        Runs.go(2, seven(), "muster 0 = 3; told 0 1 = 10; told 10 2 = 0; muster 999 = 3; told 999 1 = 70; told 70 3 = 999; muster 39 = 3; told 39 1 = 30;"
+        Runs.go(2, Runs.seven(), "muster 0 = 3; told 0 1 = 10; told 10 2 = 0; muster 999 = 3; told 999 1 = 70; told 70 3 = 999; muster 39 = 3; told 39 1 = 30;"
                 + "muster 41 = 3; told 41 1 = 50; told 50 2 = 41; told 30 3 = 39; count 5 = 0");
         Runs.run(2, "muster 999 = 0; count 1 = 999; muster 0 = 1; told 999 2 = 0; told 999 3 = -1");
     }
@@ -244,7 +233,7 @@ public final class TermsEdgesTest {
     private static void dischargeWithNobodyBelow() {
         Runs.says("A soldier with nobody below goes.");
         Runs.run(3, "muster 5 = 0; discharge 5 = false; isThere 5 = false; count 0 = 0; count 1 = -1");
-        Runs.go(3, seven(), "discharge 10 = false; told 20 2 = -1; told 20 3 = 30; told 20 4 = 2; told 40 4 = 6; discharge 70 = false; told 60 3 = -1; told 60 2 = 50; told 40 4 = 5");
+        Runs.go(3, Runs.seven(), "discharge 10 = false; told 20 2 = -1; told 20 3 = 30; told 20 4 = 2; told 40 4 = 6; discharge 70 = false; told 60 3 = -1; told 60 2 = 50; told 40 4 = 5");
     }
 
     private static void dischargeWithOneSideAlone() {
@@ -264,19 +253,19 @@ public final class TermsEdgesTest {
         // right below, with nobody to the right
         Runs.go(3, mustered(50, 20, 80), "discharge 50 = false; count 1 = 80; told 80 1 = -1; told 80 2 = 20; told 80 3 = -1; told 20 1 = 80; told 80 4 = 2");
         // deeper, at the top
-        Runs.go(3, seven(), "discharge 40 = false; count 1 = 50; told 50 0 = 0; told 50 1 = -1; told 50 2 = 20; told 50 3 = 60; told 20 1 = 50; told 60 1 = 50; told 60 2 = -1;"
+        Runs.go(3, Runs.seven(), "discharge 40 = false; count 1 = 50; told 50 0 = 0; told 50 1 = -1; told 50 2 = 20; told 50 3 = 60; told 20 1 = 50; told 60 1 = 50; told 60 2 = -1;"
                 + "told 60 4 = 2; told 50 4 = 6; at 3 = 50");
         // to the left and to the right of the one above
-        Runs.go(3, seven(), "discharge 20 = false; told 40 2 = 30; told 30 1 = 40; told 30 2 = 10; told 30 3 = -1; told 10 1 = 30; told 30 4 = 2; told 40 4 = 6;"
+        Runs.go(3, Runs.seven(), "discharge 20 = false; told 40 2 = 30; told 30 1 = 40; told 30 2 = 10; told 30 3 = -1; told 10 1 = 30; told 30 4 = 2; told 40 4 = 6;"
                 + "discharge 60 = false; told 40 3 = 70; told 70 1 = 40; told 70 2 = 50; told 70 3 = -1; told 50 1 = 70; told 40 4 = 5");
     }
 
     private static void nextTallerHasOneToTheRight() {
         Runs.says("whoever stands to the right of that one, with all below, comes into the place of that one");
-        LopsidedRanks deep = seven();
+        LopsidedRanks deep = Runs.seven();
         Runs.musterAll(deep, 55, 53);
         Runs.go(3, deep, "discharge 40 = false; count 1 = 50; told 50 2 = 20; told 50 3 = 60; told 60 2 = 55; told 55 1 = 60; told 55 2 = 53; told 55 4 = 2; told 60 4 = 4; told 50 4 = 8");
-        LopsidedRanks rightBelow = seven();
+        LopsidedRanks rightBelow = Runs.seven();
         Runs.musterAll(rightBelow, 80, 75);
         Runs.go(3, rightBelow, "discharge 60 = false; told 40 3 = 70; told 70 2 = 50; told 70 3 = 80; told 80 1 = 70; told 80 2 = 75; told 70 4 = 4; told 40 4 = 8");
     }
@@ -290,7 +279,7 @@ public final class TermsEdgesTest {
         // 9 and 8; 6 and 8
         Runs.go(3, mustered(10, 20, 30, 40), "discharge 10 = false; count 5 = 0; count 7 = 4; discharge 20 = true; count 1 = 30; count 6 = 2; count 7 = 2");
         // 300 and 300; 297 and 300
-        LopsidedRanks full = byRanks(0, 6, FULL);
+        LopsidedRanks full = Runs.byRanks(0, 6, FULL);
         for (int i = 0; i < 50; i++) {
             Runs.due(3, "discharge " + i * 6, full.discharge(i * 6), false);
         }
@@ -300,7 +289,7 @@ public final class TermsEdgesTest {
     private static void mostSinceTheLatestDrawingUp() {
         Runs.says("the most that there were since all were drawn up anew the latest (or since the beginning)");
         // it stays while they go, and while they come again up to as many; it grows with one more
-        LopsidedRanks ranks = seven();
+        LopsidedRanks ranks = Runs.seven();
         Runs.go(11, ranks, "count 7 = 7; discharge 10 = false; count 7 = 7; muster 10 = 2; count 7 = 7; muster 5 = 3; count 7 = 8; discharge 5 = false; count 7 = 8");
         // 15 and 16; drawn up, the most is 5 again, then 12 and 10, 9 and 10
         Runs.go(11, ranks, "discharge 10 = false; discharge 20 = true; count 7 = 5; discharge 30 = false; count 7 = 5; discharge 70 = true; count 7 = 3; muster 1 = 2; count 7 = 4");
@@ -314,27 +303,27 @@ public final class TermsEdgesTest {
 
     private static void topDrawnUpSetsTheMost() {
         Runs.says("Whenever the company of the one at the top is drawn up anew, all are, and the most is as many as there are then.");
-        Runs.go(4, seven(), "discharge 10 = false; discharge 30 = false; count 7 = 7; draw 40 = 50; count 7 = 5; count 6 = 5; told 50 2 = 20; told 20 3 = 40; told 50 3 = 60;"
+        Runs.go(4, Runs.seven(), "discharge 10 = false; discharge 30 = false; count 7 = 7; draw 40 = 50; count 7 = 5; count 6 = 5; told 50 2 = 20; told 20 3 = 40; told 50 3 = 60;"
                 + "discharge 20 = false; count 7 = 5; discharge 40 = true; count 7 = 3");
         Runs.run(4, "muster 1 = 0; draw 1 = 1; count 5 = 1; count 6 = 1; count 7 = 1");
-        LopsidedRanks full = byRanks(0, 6, FULL);
+        LopsidedRanks full = Runs.byRanks(0, 6, FULL);
         Runs.go(4, full, "draw 444 = 444; count 7 = 150; count 6 = 150; discharge 0 = false; count 7 = 150; draw 444 = 450; count 7 = 149; count 6 = 299");
     }
 
     private static void lowerDrawnUpLeavesTheMost() {
         Runs.says("Whenever the company of the one at the top is drawn up anew");
         // by draw, and by muster: not the top's, thus the most stays as it was
-        Runs.go(4, seven(), "discharge 10 = false; draw 20 = 20; count 5 = 1; count 7 = 7; draw 60 = 60; draw 70 = 70; count 5 = 3; count 7 = 7");
+        Runs.go(4, Runs.seven(), "discharge 10 = false; draw 20 = 20; count 5 = 1; count 7 = 7; draw 60 = 60; draw 70 = 70; count 5 = 3; count 7 = 7");
         LopsidedRanks ranks = mustered(10, 5, 20, 30, 40, 50);
         Runs.go(2, ranks, "discharge 5 = false; discharge 50 = false; count 7 = 6; moves 50 = 20; muster 50 = 3; count 5 = 1; count 0 = 5; count 7 = 6");
     }
 
     private static void exceptionsChangeNothing() {
         Runs.says("A method that throws an exception changes nothing.");
-        LopsidedRanks swayed = seven();
+        LopsidedRanks swayed = Runs.seven();
         swayed.draw(20);
         swayed.discharge(70);
-        for (LopsidedRanks ranks : new LopsidedRanks[] {new LopsidedRanks(), mustered(5), swayed, byRanks(0, 6, FULL)}) {
+        for (LopsidedRanks ranks : new LopsidedRanks[] {new LopsidedRanks(), mustered(5), swayed, Runs.byRanks(0, 6, FULL)}) {
             Runs.refused(2, ranks, IAE, "muster -1", "muster 1000");
             Runs.refused(3, ranks, IAE, "discharge -1", "discharge 1000");
             Runs.refused(4, ranks, IAE, "draw -1", "draw 1000");
@@ -349,15 +338,15 @@ public final class TermsEdgesTest {
             Runs.refused(5, ranks, IAE, "isThere -1", "between -1 5", "between 5 1000", "captain -1 5", "taller -1", "would -1", "moves 1000");
         }
         Runs.refused(2, swayed, ISE, "muster 40");
-        Runs.refused(2, byRanks(0, 6, FULL), ISE, "muster 0", "muster 7");
+        Runs.refused(2, Runs.byRanks(0, 6, FULL), ISE, "muster 0", "muster 7");
     }
 
     private static void firstNamedException() {
         Runs.says("If several exceptions apply, the one that is named first is thrown.");
-        Runs.refused(2, byRanks(0, 6, FULL), IAE, "muster -1", "muster 1000");
+        Runs.refused(2, Runs.byRanks(0, 6, FULL), IAE, "muster -1", "muster 1000");
         Runs.refused(3, new LopsidedRanks(), IAE, "discharge -1", "discharge 1000");
         Runs.refused(4, new LopsidedRanks(), IAE, "draw -1", "draw 1000");
-        for (LopsidedRanks ranks : new LopsidedRanks[] {new LopsidedRanks(), seven()}) {
+        for (LopsidedRanks ranks : new LopsidedRanks[] {new LopsidedRanks(), Runs.seven()}) {
             Runs.refused(6, ranks, IAE, "told -1 -1", "told -1 8", "told 1000 8", "told 1000 -1", "told -1 0", "told 1000 7");
             Runs.refused(6, ranks, IOOBE, "told 11 -1", "told 11 8", "told 0 8", "told 999 -1");
             Runs.refused(9, ranks, IAE, "captain 11 -1", "captain 11 1000", "captain -1 11", "captain 1000 11", "captain -1 1000");
